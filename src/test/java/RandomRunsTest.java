@@ -22,6 +22,7 @@ public final class RandomRunsTest {
     private final int dearest;
     private final boolean isRich;
     private final boolean isWild;
+    private final int ready;
 
     private RandomRunsTest(int seed) {
         this.seed = seed;
@@ -31,6 +32,7 @@ public final class RandomRunsTest {
         dearest = random.nextBoolean() ? 200 : 1 + random.nextInt(30);
         isRich = random.nextBoolean();
         isWild = random.nextInt(4) == 0;
+        ready = random.nextInt(4) > 0 ? 12 : 37;
     }
 
     public static void main(String[] args) throws Exception {
@@ -98,7 +100,7 @@ public final class RandomRunsTest {
             return p < 11 ? "run" : "read";
         }
         if (!plain.isCleared) {
-            if (plain.bids.size() > 12 && random.nextInt(10) == 0) {
+            if (plain.bids.size() > ready && random.nextInt(10) == 0) {
                 return "clear";
             }
             String[] names = {"bid", "bid", "bid", "bid", "bid", "bid", "block", "link", "ask", "setLimit"};
