@@ -34,6 +34,7 @@ public final class FaceTest {
                 checks.due("private " + method.getName() + " bears a public name", faceNames.contains(method.getName()), false);
             }
         }
+        checkInnerClasses(checks, faceNames);
         Set<String> constants = new HashSet<>();
         for (Field field : GridMarket.class.getDeclaredFields()) {
             if (!Modifier.isPrivate(field.getModifiers())) {
@@ -53,6 +54,18 @@ public final class FaceTest {
         checks.due("class is public and final", GridMarket.class.getModifiers(), Modifier.PUBLIC | Modifier.FINAL);
         checkSource(checks);
         checks.end();
+    }
+
+    private static void checkInnerClasses(Checks checks, Set<String> faceNames) {
+        Class<?>[] inner = GridMarket.class.getDeclaredClasses();
+        checks.due("classes inside are few", inner.length < 12, true);
+        for (Class<?> one : inner) {
+            checks.due(one.getName() + " is private", Modifier.isPrivate(one.getModifiers()), true);
+            checks.due(one.getName() + " is static", Modifier.isStatic(one.getModifiers()), true);
+            for (Method method : one.getDeclaredMethods()) {
+                checks.due(one.getName() + "." + method.getName() + " bears a public name", faceNames.contains(method.getName()), false);
+            }
+        }
     }
 
     private static Set<String> faceOfDocument() throws Exception {
